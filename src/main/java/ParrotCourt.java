@@ -348,7 +348,6 @@ public final class ParrotCourt {
             for (int sort = DROPS; sort <= JOINS; sort++) {
                 for (int saying = 0; saying < SAYINGS; saying++) {
                     int row = (sort - DROPS) * SAYINGS + saying;
-                    starts[row] = used;
                     list(sort, saying, used);
                     starts[row + 1] = used;
                 }
@@ -403,7 +402,8 @@ public final class ParrotCourt {
         int numbered(int sort, int saying, int number) {
             int row = rowOf(sort, saying);
             if (row < 0 || number < 1 || number > starts[row + 1] - starts[row]) return saying;
-            return results[starts[row] + number - 1];
+            int at = starts[row] + number - 1;
+            return at >= 0 && at < results.length ? results[at] : saying;
         }
     }
 
@@ -684,6 +684,7 @@ public final class ParrotCourt {
             int many = table.count(sort, said);
             for (int number = 1; number <= many; number++) {
                 int slip = table.numbered(sort, said, number);
+                if (slip < 0 || slip >= SAYINGS) continue;
                 int slips = costs[hearer][slip] + 1;
                 if (slips > leastCost) continue;
                 leastCount = slips < leastCost ? counts[hearer][slip] : leastCount + counts[hearer][slip];
