@@ -1,94 +1,5 @@
 /** Each promise of the document by hand: ordinary inputs, the edges that it names, wrong inputs. */
-public final class PromisesTest {
-  private static final int UNKNOWN = -1, OUTSIDE = -2, STATE = -3, FULL = -4, NO = -5, NONE = -6;
-  private static final long GONE = -1000000000000000000L;
-  private static final int MOST = Integer.MAX_VALUE, LEAST = Integer.MIN_VALUE;
-  private static final int A = 0, B = 1, C = 2, D = 3, E = 4, F = 5;
-
-  private static int promise = 0;
-  private static int checked = 0;
-  private static int wrong = 0;
-
-  private static void due(String what, long got, long want) {
-    checked++;
-    if (got == want) return;
-    wrong++;
-    System.out.println("promise " + promise + ": " + what + " answered " + got + ", due is " + want);
-  }
-
-  // ---- helpers
-
-  private static void say(ParrotCourt court, String text) {
-    for (int i = 0; i < text.length(); i++) court.say(text.charAt(i));
-  }
-
-  /** A court of birds of these sorts (a digit a bird), days and a bargain. */
-  private static ParrotCourt court(String sorts, String days, String bargain) {
-    ParrotCourt court = new ParrotCourt();
-    for (int bird = 0; bird < sorts.length(); bird++) court.sort(bird, sorts.charAt(bird) - '0');
-    say(court, days);
-    if (court.days() < 0) throw new IllegalStateException("days " + days);
-    say(court, bargain);
-    if (court.bargain() < 0) throw new IllegalStateException("bargain " + bargain);
-    return court;
-  }
-
-  private static ParrotCourt testify(ParrotCourt court, int bird, String saying) {
-    say(court, saying);
-    court.testify(bird);
-    return court;
-  }
-
-  private static void pad(ParrotCourt court, String text) {
-    court.wipe();
-    say(court, text);
-  }
-
-  private static String saysOf(ParrotCourt court, int bird) {
-    int words = court.says(bird, -1);
-    if (words < 0) return "-";
-    StringBuilder text = new StringBuilder();
-    for (int i = 0; i < words; i++) text.append((char) court.says(bird, i));
-    if (court.says(bird, words) != NONE) text.append("!");
-    return text.toString();
-  }
-
-  private static String yearsOf(ParrotCourt court, int seed, int n, int bird) {
-    int words = court.years(seed, n, bird, -1);
-    if (words < 0) return "-";
-    StringBuilder text = new StringBuilder();
-    for (int i = 0; i < words; i++) text.append((char) court.years(seed, n, bird, i));
-    if (court.years(seed, n, bird, words) != NONE) text.append("!");
-    return text.toString();
-  }
-
-  private static void dueText(String what, String got, String want) {
-    due(what + " \"" + got + "\", not \"" + want + "\":", got.equals(want) ? 1 : 0, 1);
-  }
-
-  private static void dueHeard(String sorts, String days, String want) {
-    ParrotCourt court = court(sorts, days, "ab");
-    StringBuilder got = new StringBuilder();
-    for (int part = 0; part < court.told(1); part++) got.append(court.part(part, 3));
-    dueText("heard in " + days + " by sorts " + sorts, got.toString(), want);
-  }
-
-  /** All that can be asked without changing anything, in one text. */
-  private static String all(ParrotCourt court) {
-    StringBuilder text = new StringBuilder();
-    for (int what = 0; what < 26; what++) text.append(court.told(what)).append(' ');
-    for (int part = 0; part < court.told(1); part++) {
-      for (int what = 0; what < 4; what++) text.append(court.part(part, what)).append(' ');
-    }
-    for (int bird = 0; bird < 6; bird++) text.append(saysOf(court, bird)).append(' ');
-    text.append(court.fault(0)).append(' ').append(court.fault(1)).append(' ');
-    text.append(court.cost()).append(' ').append(court.ways()).append(' ').append(court.odds(1)).append(' ');
-    for (int what = 0; what < 15; what++) text.append(court.likely(what)).append(' ');
-    for (int k = 0; k < 4; k++) text.append(court.canBe(k)).append(' ').append(court.taught(k)).append(' ');
-    text.append(court.few(2)).append(' ').append(yearsOf(court, 7, 9, F)).append(' ').append(court.lost(7, 99, A));
-    return text.toString();
-  }
-
+public final class PromisesTest extends Courts {
   // ---- 1 birds, days
 
   private static void promise1() {
@@ -161,13 +72,6 @@ public final class PromisesTest {
     due("wipe()", court.wipe(), 0);
     due("told(0)", court.told(0), 0);
     due("bargain()", court.bargain(), 0);
-  }
-
-  private static void dueFault(int how, String text, int want) {
-    ParrotCourt court = new ParrotCourt();
-    say(court, text);
-    due("fault(" + how + ") of " + text, court.fault(how), want);
-    due("told(0)", court.told(0), text.length());
   }
 
   private static void promise5() {
@@ -408,13 +312,6 @@ public final class PromisesTest {
     due("unsay(-1)", court.unsay(-1), UNKNOWN);
   }
 
-  private static void dueCost(ParrotCourt court, String saying, int cost, long ways) {
-    pad(court, saying);
-    due("cost() of " + saying, court.cost(), cost);
-    due("ways() of " + saying, court.ways(), ways);
-    due("told(0)", court.told(0), saying.length());
-  }
-
   /** A and B each lose a word of what X says; A says "a", B says "b". */
   private static ParrotCourt twoLosers() {
     return testify(testify(court("11", "XAXB", ""), A, "a"), B, "b");
@@ -457,15 +354,6 @@ public final class PromisesTest {
     due("told(0)", court.told(0), 6);
   }
 
-  private static void dueLikely(ParrotCourt court, int fewest, int many, String first) {
-    due("likely(0)", court.likely(0), fewest);
-    due("likely(1)", court.likely(1), many);
-    due("likely(2)", court.likely(2), first.length());
-    for (int i = 0; i < 5; i++) {
-      due("likely(1" + i + ")", court.likely(10 + i), i < first.length() ? first.charAt(i) : NONE);
-    }
-  }
-
   private static void promise14() {
     dueLikely(new ParrotCourt(), 0, 364, "");
     dueLikely(testify(court("1", "XA", ""), A, "a"), 0, 1, "a");
@@ -496,13 +384,6 @@ public final class PromisesTest {
     say(court, "abd");
     due("ways() with a fault", court.ways(), GONE - 5);
     due("told(0)", court.told(0), 3);
-  }
-
-  private static void dueOdds(ParrotCourt court, String saying, long above, long below) {
-    pad(court, saying);
-    due("odds(0) of " + saying, court.odds(0), above);
-    due("odds(1) of " + saying, court.odds(1), below);
-    due("told(0)", court.told(0), saying.length());
   }
 
   private static void promise16() {
@@ -640,12 +521,6 @@ public final class PromisesTest {
     for (int v : new int[] {0, 100, -1, LEAST, MOST}) due("rare(" + v + ")", court.rare(v), OUTSIDE);
     due("told(3)", court.told(3), 99);
     due("rare(40)", court.rare(40), 99);
-  }
-
-  private static ParrotCourt always(String sorts, String days, String bargain) {
-    ParrotCourt court = court(sorts, days, bargain);
-    court.rare(1);
-    return court;
   }
 
   private static void promise22() {
@@ -803,33 +678,33 @@ public final class PromisesTest {
   }
 
   public static void main(String[] args) {
-    promise = 1; promise1();
-    promise = 2; promise2();
-    promise = 3; promise3();
-    promise = 4; promise4();
-    promise = 5; promise5();
-    promise = 6; promise6();
-    promise = 7; promise7();
-    promise = 8; promise8();
-    promise = 9; promise9();
-    promise = 10; promise10();
-    promise = 11; promise11();
-    promise = 12; promise12();
-    promise = 13; promise13();
-    promise = 14; promise14();
-    promise = 15; promise15();
-    promise = 16; promise16();
-    promise = 17; promise17();
-    promise = 18; promise18();
-    promise = 19; promise19();
-    promise = 20; promise20();
-    promise = 21; promise21();
-    promise = 22; promise22();
-    promise = 23; promise23();
-    promise = 24; promise24();
-    promise = 25; promise25();
-    promise = 26; promise26();
-    promise = 0; refusedCalls();
+    place = "promise 1"; promise1();
+    place = "promise 2"; promise2();
+    place = "promise 3"; promise3();
+    place = "promise 4"; promise4();
+    place = "promise 5"; promise5();
+    place = "promise 6"; promise6();
+    place = "promise 7"; promise7();
+    place = "promise 8"; promise8();
+    place = "promise 9"; promise9();
+    place = "promise 10"; promise10();
+    place = "promise 11"; promise11();
+    place = "promise 12"; promise12();
+    place = "promise 13"; promise13();
+    place = "promise 14"; promise14();
+    place = "promise 15"; promise15();
+    place = "promise 16"; promise16();
+    place = "promise 17"; promise17();
+    place = "promise 18"; promise18();
+    place = "promise 19"; promise19();
+    place = "promise 20"; promise20();
+    place = "promise 21"; promise21();
+    place = "promise 22"; promise22();
+    place = "promise 23"; promise23();
+    place = "promise 24"; promise24();
+    place = "promise 25"; promise25();
+    place = "promise 26"; promise26();
+    place = "refused calls"; refusedCalls();
     System.out.println(checked + " answers checked promise by promise, " + wrong + " wrong");
     if (wrong != 0) System.exit(1);
   }
