@@ -586,6 +586,9 @@ public final class EdgesTest extends Courts {
     due("few(1) of one that never slips", court("04", "XAXB", "").few(1), 1);
     due("few(1) of two that hear one", court("100", "XAABAC", "").few(1), NONE);
     due("few(1) of one that hears anew", court("20", "XAABXB", "").few(1), 2);
+    due("few(3) of 16 parts", court("020000", "XA".repeat(15) + "XB", "").few(3), 1);
+    due("few(3) of 16 parts", court("200000", "XA".repeat(14) + "XBAC", "").few(3), 2);
+    due("doubt(3, 63) of 16 parts", court("200000", "XA".repeat(16), "").doubt(3, 63), 27);
     sentence("(a BIRD that has heard nothing says nothing, always)");
     court = court("00", "XAmAAB", "");
     due("doubt(1, 2)", court.doubt(1, 2), 3);
