@@ -1,6 +1,9 @@
 import java.io.IOException;
 import java.nio.file.Files;
 import java.nio.file.Path;
+import java.util.Arrays;
+import java.util.HashSet;
+import java.util.Set;
 import java.util.function.ToLongFunction;
 
 /**
@@ -10,11 +13,11 @@ import java.util.function.ToLongFunction;
  */
 public final class EdgesTest extends Courts {
   private static String document = null;
-  private static int sentences = 0;
+  private static final Set<String> sentences = new HashSet<>();
 
   private static void sentence(String words) {
     place = "\"" + words + "\"";
-    sentences++;
+    sentences.add(words);
     if (document != null && !document.contains(words)) System.out.println("the document has no more " + place);
   }
 
@@ -810,7 +813,7 @@ public final class EdgesTest extends Courts {
     for (int about : new int[] {400, 9999, MOST - 5}) {
       for (int more = -5; more <= 5; more++) values[many++] = about + more;
     }
-    return java.util.Arrays.copyOf(values, many);
+    return Arrays.copyOf(values, many);
   }
 
   private static void numbersOfCalls() {
@@ -885,7 +888,7 @@ public final class EdgesTest extends Courts {
     images();
     told();
     numbersOfCalls();
-    System.out.println(checked + " answers checked of " + sentences + " sentences that name edges, " + wrong + " wrong");
+    System.out.println(checked + " answers checked of " + sentences.size() + " sentences that name edges, " + wrong + " wrong");
     if (wrong != 0) System.exit(1);
   }
 }
