@@ -10,6 +10,9 @@ public final class ParrotCourt {
     private static final int BARGAIN = 6, MUTE = 7;
     private static final int ECHOES = 0, DROPS = 1, CHANGES = 2, JOINS = 3, ANSWERS = 4;
     private static final int WORDS = 3, LONGEST = 5, SAYINGS = 364;
+    private static final int[] POWERS = {1, 3, 9, 27, 81, 243};
+    // shorter ones stand ahead: 1, 1 + 3, 1 + 3 + 9 ..
+    private static final int[] FIRSTS = {0, 1, 4, 13, 40, 121, 364};
     private static final int SIGNS = 48, MOST_PARTS = 16, IMAGES = 2;
     private static final int SILENCE = -1, NOBODY = -1;
     private static final int NEVER = 1000;
@@ -299,16 +302,14 @@ public final class ParrotCourt {
         return birds;
     }
 
-    /** 3 to the n, for n up to the first number of words that no SAYING has. */
+    /** 3 to the n, for n words that a SAYING may have. */
     private static int power(int n) {
-        int product = 1;
-        for (int i = 0; i < n && i <= LONGEST; i++) product *= WORDS;
-        return product;
+        return n >= 0 && n < POWERS.length ? POWERS[n] : 1;
     }
 
-    /** The number of the first SAYING of so many words: 1 + 3 + 9 .. shorter ones stand ahead of it. */
+    /** The number of the first SAYING of so many words. */
     private static int firstOf(int length) {
-        return (power(length) - 1) / 2;
+        return length >= 0 && length < FIRSTS.length ? FIRSTS[length] : SAYINGS;
     }
 
     private static int lengthOf(int saying) {
@@ -361,7 +362,7 @@ public final class ParrotCourt {
             int words = sort == DROPS ? 1 : WORDS;
             for (int place = 0; place < places; place++) {
                 for (int word = 0; word < words; word++) {
-                    addUnlike(start, saying, slipped(sort, saying, place, word));
+                    addUnlike(start, saying, slipped(sort, saying - firstOf(length), length, place, word));
                 }
             }
         }
@@ -375,9 +376,8 @@ public final class ParrotCourt {
             used++;
         }
 
-        private static int slipped(int sort, int saying, int place, int word) {
-            int length = lengthOf(saying);
-            int letters = saying - firstOf(length);
+        /** Of a SAYING of that length, whose letters are the digits of a number, what it becomes. */
+        private static int slipped(int sort, int letters, int length, int place, int word) {
             if (sort == JOINS) {
                 int behind = power(length - place);
                 return firstOf(length + 1) + (letters / behind * WORDS + word) * behind + letters % behind;
