@@ -149,7 +149,11 @@ public final class PromisesTest extends Courts {
   }
 
   private static void promise7() {
-    ParrotCourt court = court("0", "XF3mBFE", "abc");
+    ParrotCourt court = court("0", "XA2", "abc");
+    say(court, "XA");
+    court.days();
+    due("part(0, 2) of days without digits, behind others", court.part(0, 2), 0);
+    court = court("0", "XF3mBFE", "abc");
     int[][] want = {{6, F, 3, 1}, {7, B, 0, 0}, {F, E, 0, 1}};
     for (int part = 0; part < 3; part++) {
       for (int what = 0; what < 4; what++) due("part(" + part + ", " + what + ")", court.part(part, what), want[part][what]);
@@ -371,6 +375,11 @@ public final class PromisesTest extends Courts {
     }
   }
 
+  /** THE BARGAIN was "a", and B and F have each heard of one SLIP, that came in one of two places. */
+  private static ParrotCourt twoBranches() {
+    return testify(testify(testify(court("330033", "XAABXCXEEF", ""), B, "aa"), C, "a"), F, "ab");
+  }
+
   private static void promise15() {
     dueCost(twoWays(), "ab", 2, 2);
     dueCost(twoWays(), "ba", 2, 2);
@@ -380,7 +389,12 @@ public final class PromisesTest extends Courts {
     // one SLIP that both hear of, and three places where it may have come
     dueCost(testify(testify(court("2222", "XAABBCXD", ""), C, "b"), D, "a"), "a", 1, 3);
     dueCost(testify(testify(court("2222", "XAABBCXD", ""), C, "b"), D, "a"), "b", 1, 1);
-    ParrotCourt court = new ParrotCourt();
+    ParrotCourt court = twoBranches();
+    say(court, "a");
+    due("ways() as the first question", court.ways(), 4);
+    court.unsay(B);
+    due("ways() without the testimony of B", court.ways(), 2);
+    court = new ParrotCourt();
     say(court, "abd");
     due("ways() with a fault", court.ways(), GONE - 5);
     due("told(0)", court.told(0), 3);
@@ -394,7 +408,11 @@ public final class PromisesTest extends Courts {
     dueOdds(testify(testify(court("2222", "XAABBCXD", ""), C, "b"), D, "a"), "a", 3, 4);
     dueOdds(testify(testify(court("2222", "XAABBCXD", ""), C, "b"), D, "a"), "b", 1, 4);
     dueOdds(testify(testify(court("2222", "XAABBCXD", ""), C, "b"), D, "a"), "c", 0, 1);
-    ParrotCourt court = new ParrotCourt();
+    ParrotCourt court = twoBranches();
+    dueOdds(court, "a", 1, 1);
+    court.unsay(B);
+    dueOdds(court, "a", 1, 1);
+    court = new ParrotCourt();
     due("odds(2)", court.odds(2), GONE - 2);
     due("odds(-1)", court.odds(-1), GONE - 2);
     say(court, "x");
@@ -447,6 +465,11 @@ public final class PromisesTest extends Courts {
     due("taught(0)", court.taught(0), 6);
     due("taught(1)", court.taught(1), 6);
     due("taught(2)", court.taught(2), STATE);
+    // days without X, asked for in between, change nothing
+    court = testify(testify(court("00", "XAXB", ""), A, "a"), B, "b");
+    due("likely(0)", court.likely(0), NONE);
+    due("years(0, 2, 0, -1)", court.years(0, 2, A, -1), 0);
+    due("taught(0) behind years", court.taught(0), 3);
     due("taught(17)", court.taught(17), OUTSIDE);
     due("taught(-1)", court.taught(-1), OUTSIDE);
     due("taught(17)", new ParrotCourt().taught(17), OUTSIDE);
@@ -506,6 +529,10 @@ public final class PromisesTest extends Courts {
     due("doubt(2, 10)", court.doubt(2, 10), 0);
     court.sort(A, 0);
     due("doubt(2, 6)", court.doubt(2, 6), 0);
+    // C keeps nothing to say to B, who has still what it heard from A
+    due("doubt(1, 2)", court("200", "XAABCB", "abc").doubt(1, 2), 3);
+    // what C forgot was never heard by A
+    due("doubt(1, 1)", court("002", "XAXCXC", "abc").doubt(1, 1), 0);
     due("doubt(1, 64)", court.doubt(1, 64), OUTSIDE);
     due("doubt(1, -1)", court.doubt(1, -1), OUTSIDE);
     due("doubt(0, 1)", court.doubt(0, 1), OUTSIDE);
